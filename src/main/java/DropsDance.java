@@ -725,7 +725,7 @@ public final class DropsDance {
         }
 
         int kindAt(int c) {
-            return isCell(c) ? cells[c] : WALL;
+            return c >= 0 && c < CELLS ? cells[c] : WALL;
         }
 
         boolean isOpen(int c) {
@@ -837,7 +837,7 @@ public final class DropsDance {
 
         int wayOf(Drop drop, Rules rules, int roll) {
             int kind = kindAt(drop.cell);
-            if (isWay(kind)) {
+            if (kind < PLAIN) {
                 return rules.teethSend(drop.size) ? kind : drop.way;
             }
             return drop.size <= roll ? drawWay() : drop.way;
@@ -913,27 +913,23 @@ public final class DropsDance {
             bestCell = NONE;
             bestKind = NONE;
             for (int c = 0; c < CELLS; c++) {
-                if (worthTrying[c] != 0 && own.cells[c] <= PLAIN) {
-                    tryKinds(rules, goal, c);
+                int kind = own.cells[c];
+                boolean worth = worthTrying[c] != 0 && kind <= PLAIN;
+                for (int v = 0; worth && v <= PLAIN; v++) {
+                    own.cells[c] = v;
+                    own.clearDrops();
+                    own.addDrop(firstCell, firstSize, firstWay);
+                    // As it is it is no sooner than as it is: that kind needs no leaving out.
+                    int ticks = ticksTill(rules, goal, bestTicks - 1);
+                    if (ticks != NONE) {
+                        bestTicks = ticks;
+                        bestCell = c;
+                        bestKind = v;
+                    }
                 }
+                own.cells[c] = kind;
             }
             return bestCell != NONE;
-        }
-
-        private void tryKinds(Rules rules, int goal, int c) {
-            int kind = own.cells[c];
-            for (int v = 0; v <= PLAIN; v++) {
-                own.cells[c] = v;
-                own.clearDrops();
-                own.addDrop(firstCell, firstSize, firstWay);
-                int ticks = v == kind ? NONE : ticksTill(rules, goal, bestTicks - 1);
-                if (ticks != NONE) {
-                    bestTicks = ticks;
-                    bestCell = c;
-                    bestKind = v;
-                }
-            }
-            own.cells[c] = kind;
         }
     }
 

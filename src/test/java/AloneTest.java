@@ -53,6 +53,8 @@ public final class AloneTest {
         DropsDance above = hot("", 60);
         above.heat(40);
         isAlone(above, 0, 5, 1, 1, new int[] {1, 4, 0, -4});
+        DropsDance small = hot("film 9;roll 60;", 60);
+        isAlone(small, 50, 2, 1, 5, new int[] {55, 1, 0, -4});
         DropsDance longest = hot("film 9;chimney 99;", 60);
         isAlone(longest, 0, 60, 1, 400, new int[] {0, 15, 0, -4});
     }
@@ -79,27 +81,26 @@ public final class AloneTest {
         lastTick();
     }
 
-    /** A tooth into a wall holds it at CELL 11 till it is too small for it: the 400th TICK counts, the 401st does not. */
+    /** A tooth into a wall holds it at CELL 11 till it is too small for that: the 400th TICK counts, the 401st does not. */
     private static void lastTick() {
-        // SIZE s behind TICK 0: s - 1, behind TICK 9 k: s - 1 - k; below 17 it goes south.
-        for (int size = 50; size <= 62 - 1 && size <= 60; size++) {
+        // SIZE behind TICK 9 k: 1 and k less; below 17 it goes south.
+        for (int size = 50; size <= 60; size++) {
             DropsDance x = hot("film 9;chimney 99;teeth 17 60;row pppppppppppe;", 60);
-            int free = 9 * (size - 17);
-            int due = free + 1 <= 400 ? free + 1 : -4;
-            CHECK.due("held till it is small, size " + size, x.reach(11, size, 2, 23), due);
+            int ticks = 9 * (size - 17) + 1;
+            CHECK.due("held till it is small, size " + size, x.reach(11, size, 2, 23), ticks <= 400 ? ticks : -4);
         }
-        for (int start = 0; start < 4; start++) {
-            DropsDance x = hot("film 8;chimney 99;teeth 10 60;row pppppppppppe;", 60);
-            // From SIZE 59 on free at TICK 392, at CELL 23 behind 393 TICKS, at CELL 95 behind 399, then west.
-            CHECK.due("behind 393", x.reach(11, 59, 2, 23), 393);
-            CHECK.due("behind 399", x.reach(11, 59, 2, 95), 399);
-            CHECK.due("behind 401", x.reach(11, 59, 2, 94), -4);
-        }
-        DropsDance x = hot("film 8;chimney 99;teeth 10 60;row pppppppppppe;row pppppppppppp;row pppppppppppp;"
-            + "row pppppppppppp;row pppppppppppp;row pppppppppppp;row pppppppppppp;row pppppppppppw;", 60);
-        CHECK.due("no tooth for the small", x.reach(11, 59, 2, 94), -4);
-        DropsDance y = hot("film 8;chimney 99;teeth 10 60;row pppppppppppp;row pppppppppppe;", 60);
-        CHECK.due("behind 400 just", y.reach(10, 59, 1, 95), soonest(y, 10, 59, 1, 95));
+        // From SIZE 59 on it is free at TICK 49 times 8.
+        DropsDance x = hot("film 8;chimney 99;teeth 10 60;row pppppppppppe;", 60);
+        CHECK.due("behind 393", x.reach(11, 59, 2, 23), 393);
+        CHECK.due("behind 399", x.reach(11, 59, 2, 95), 399);
+        CHECK.due("behind 401", x.reach(11, 59, 2, 94), -4);
+        DropsDance y = hot("film 7;chimney 99;teeth 4 60;row pppppppppppe;", 60);
+        // From SIZE 60 on it is free at TICK 56 times 7, at CELL 95 behind 399 TICKS, and stays there for one.
+        CHECK.due("behind 399", y.reach(11, 60, 2, 95), 399);
+        y.put(95, 5);
+        // Now it turns at CELL 83 behind 398, stays for one, is at CELL 82 behind 400.
+        CHECK.due("behind 400 just", y.reach(11, 60, 2, 82), 400);
+        CHECK.due("behind 401", y.reach(11, 60, 2, 81), -4);
     }
 
     private static int soonest(DropsDance x, int c, int size, int way, int goal) {
@@ -183,9 +184,17 @@ public final class AloneTest {
         isMend(x, new int[] {0, 60, 1, 13}, new int[] {2, 1, 2});
         isMend(x, new int[] {0, 60, 3, 2}, new int[] {2, 0, 1});
         isMend(x, new int[] {0, 60, 1, 50}, new int[] {6, 2, 2});
+        isMend(x, new int[] {0, 60, 0, 2}, new int[] {2, 0, 1});
+        isMend(x, new int[] {50, 60, 1, 38}, new int[] {1, 50, 0});
+        isMend(x, new int[] {50, 60, 1, 51}, new int[] {-4, -4, -4});
         CHECK.due("the plate stays", x.cell(0), 4);
         DropsDance tooth = hot("film 9;row ppspppppppop;", 60);
         isMend(tooth, new int[] {0, 60, 1, 10}, new int[] {10, 2, 1});
+        isMend(tooth, new int[] {0, 60, 1, 17}, new int[] {6, 14, 1});
+        // Teeth send till TICK 17: only a plain one lets it round first, and by the last tooth then.
+        DropsDance round = hot("teeth 10 60;film 9;row ppspppppwppp;row pxpppppppppp;row xpnpppppnppp;row pxwxpppppppp;"
+            + "row pxpxpppppppp;row ppxppppppppp;", 60);
+        isMend(round, new int[] {25, 12, 1, 50}, new int[] {19, 26, 4});
         DropsDance wall = hot("film 9;row pxpppppppppp;row xppppppppppp;", 60);
         isMend(wall, new int[] {0, 60, 1, 50}, new int[] {-4, -4, -4});
         DropsDance plain = hot("film 9;row wppppppppppp;", 60);

@@ -84,6 +84,9 @@ public final class LivesTest {
         isHump(late, 60, true, new int[] {99, 145, 1, 99});
         DropsDance leapAll = Check.told("leap 9;up 10;down 5;hiss 50;");
         isHump(leapAll, 10, true, new int[] {0, 10, 1, -4});
+        isHump(Check.told("up 99;leap 9;hiss 50;"), 10, true, new int[] {0, 10, 1, -4});
+        isHump(Check.told("up 2;down 0;hiss 1;"), 10, true, new int[] {2, 28, 5, 2});
+        isHump(Check.told("up 3;down 0;hiss 2;"), 10, true, new int[] {3, 28, 5, 3});
         int[][] bad = {{0, 0}, {61, 0}, {5, -1}, {5, 4}, {5, Integer.MIN_VALUE}};
         for (int[] b : bad) {
             CHECK.due("hump bad", x.hump(b[0], true, b[1]), -1);

@@ -1,6 +1,7 @@
 /** Promises 9 to 18: heat, drop, go, seed, of, at, now, points, keep, back. */
 public final class PlateTest {
     private static final Check CHECK = new Check();
+    private static final String KINDS = "leap 9;film 9;row ppoppppppppp;row pppppppppppo;";
 
     public static void main(String[] args) {
         heat();
@@ -224,6 +225,14 @@ public final class PlateTest {
         isAt("the other one goes on with both", x, 1, 13, 12, 2);
         CHECK.due("sizes there", x.now(3), 12);
         CHECK.due("none lost", x.now(4), 0);
+        DropsDance first = hot("film 9;", 60);
+        first.go(1);
+        first.drop(0, 5, 3);
+        first.drop(1, 7, 3);
+        first.go(1);
+        isAt("the first one stays by a wall", first, 0, 0, 12, 0);
+        isAt("the second one came", first, 1, 0, 7, 3);
+        isGone("the second one came", first, 1, 4, 1, 0);
         DropsDance swap = hot("film 9;", 60);
         swap.go(1);
         swap.drop(0, 60, 1);
@@ -337,6 +346,61 @@ public final class PlateTest {
         CHECK.due("gone", x.points(1), -4);
     }
 
+    /** One leaps, one falls, one joins, one goes on. */
+    private static DropsDance allKinds() {
+        DropsDance x = hot(KINDS, 60);
+        setDownAllKinds(x);
+        return x;
+    }
+
+    private static void setDownAllKinds(DropsDance x) {
+        x.drop(30, 10, 1);
+        x.go(1);
+        x.drop(1, 20, 1);
+        x.drop(40, 21, 1);
+        x.drop(41, 22, 2);
+        x.go(1);
+    }
+
+    private static void isAllKinds(String when, DropsDance x) {
+        int[][] due = {{30, 9, 1, 3, 0, -4}, {2, 20, 1, 2, 1, -4}, {41, 21, 1, 4, 1, 3}, {53, 43, 2, 0, -4, -4}};
+        int[] now = {2, 60, 1, 43, 1, 20, 9, 73};
+        for (int d = 0; d < 4; d++) {
+            for (int what = 0; what < 6; what++) {
+                CHECK.due("of(" + d + ", " + what + ") " + when, x.of(d, what), due[d][what]);
+            }
+        }
+        for (int what = 0; what < 8; what++) {
+            CHECK.due("now(" + what + ") " + when, x.now(what), now[what]);
+        }
+    }
+
+    private static void goneOnesInImages() {
+        DropsDance y = allKinds();
+        isAllKinds("first", y);
+        y.keep(1);
+        y.drop(72, 60, 3);
+        y.drop(73, 60, 3);
+        y.go(20);
+        y.heat(0);
+        y.go(200);
+        CHECK.due("all gone", y.count(1), 0);
+        CHECK.due("back(1)", y.back(1), 2);
+        isAllKinds("back", y);
+        // Others in the same places by an older image, then back again.
+        DropsDance z = hot(KINDS, 60);
+        z.keep(0);
+        setDownAllKinds(z);
+        z.keep(1);
+        z.back(0);
+        for (int d = 0; d < 4; d++) {
+            z.drop(60 + d, d == 3 ? 9 : 15, 3);
+        }
+        z.go(9);
+        z.back(1);
+        isAllKinds("back over others", z);
+    }
+
     private static void images() {
         DropsDance x = hot("film 1;roll 60;", 60);
         x.drop(50, 30, 1);
@@ -374,6 +438,7 @@ public final class PlateTest {
         CHECK.due("seed again", x.seed(1), 99);
         CHECK.due("back(2)", x.back(2), -1);
         CHECK.due("back(-1)", x.back(-1), -1);
+        goneOnesInImages();
         DropsDance y = new DropsDance();
         y.keep(1);
         CHECK.due("back(0), there is none", y.back(0), -2);

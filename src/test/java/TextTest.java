@@ -129,6 +129,23 @@ public final class TextTest {
         CHECK.due("heat(59) comes from below", x.heat(59), 0);
         CHECK.due("rule(1) as at first", x.rule(1), 40);
         CHECK.due("seed stays", x.seed(0), 77);
+        DropsDance y = Check.told("leap 9;film 9;");
+        y.heat(60);
+        y.drop(0, 9, 1);
+        y.go(1);
+        y.drop(10, 20, 1);
+        y.drop(11, 20, 2);
+        y.go(1);
+        CHECK.due("leapt before", y.now(6), 8);
+        CHECK.due("joined before", y.of(1, 5), 2);
+        y.text();
+        CHECK.due("leapt behind a text", y.now(6), 0);
+        y.drop(0, 5, 0);
+        y.drop(1, 5, 0);
+        int[] fresh = {1, 5, 0, 0, -4, -4};
+        for (int what = 0; what < 6; what++) {
+            CHECK.due("of(1, " + what + ") of a new one", y.of(1, what), fresh[what]);
+        }
     }
 
     private static void fault(String text, int fault, int place) {
@@ -162,6 +179,9 @@ public final class TextTest {
         fault("12;", 2, 0);
         fault("ups 1;", 2, 0);
         fault("u 1;", 2, 0);
+        fault("xp 1;", 2, 0);
+        fault("tow pppppppppppp;", 2, 0);
+        fault("upz 1;", 2, 0);
         fault("rowpppppppppppp;", 2, 0);
         fault("up up;", 2, 3);
         fault("up ;", 2, 3);
@@ -173,6 +193,7 @@ public final class TextTest {
         fault("row ppppppppppp1;", 3, 4);
         fault("row ppppppppppp;", 3, 4);
         fault("row pppppppppppa;", 3, 4);
+        fault("row pppppppppppz;", 3, 4);
         fault("row ppppppppppppp", 3, 4);
         fault("up 0;", 3, 3);
         fault("up 00;", 3, 3);
