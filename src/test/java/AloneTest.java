@@ -195,6 +195,11 @@ public final class AloneTest {
         DropsDance round = hot("teeth 10 60;film 9;row ppspppppwppp;row pxpppppppppp;row xpnpppppnppp;row pxwxpppppppp;"
             + "row pxpxpppppppp;row ppxppppppppp;", 60);
         isMend(round, new int[] {25, 12, 1, 50}, new int[] {19, 26, 4});
+        // Held at CELL 11 till TICK 392 it is 401 TICKS from CELL 94; sent on, it is held at CELL 23, one nearer.
+        DropsDance held = hot("film 8;chimney 99;teeth 10 60;row pppppppppppe;row pppppppppppe;", 60);
+        CHECK.due("too far as it is", held.reach(11, 59, 2, 94), -4);
+        isMend(held, new int[] {11, 59, 2, 94}, new int[] {400, 11, 2});
+        isMend(held, new int[] {11, 59, 2, 93}, new int[] {-4, -4, -4});
         DropsDance wall = hot("film 9;row pxpppppppppp;row xppppppppppp;", 60);
         isMend(wall, new int[] {0, 60, 1, 50}, new int[] {-4, -4, -4});
         DropsDance plain = hot("film 9;row wppppppppppp;", 60);
