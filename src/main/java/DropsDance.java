@@ -433,9 +433,9 @@ public final class DropsDance {
         }
         Sheet sheet = sheets[k];
         int manyBefore = scene.many, pouredBefore = scene.poured, came = 0;
-        int found = sheet.faultAs(lane);
+        int found = 0;
         for (int i = 0; i < n && found == 0; i++) {
-            found = sheet.faultOfThree(f, i);
+            found = sheet.faultOfDrop(lane, f, i);
             if (found == 0) {
                 int first = f + 3 * i;
                 int answer = setDown(sheet.valueAt(first), sheet.valueAt(first + 1), sheet.valueAt(first + 2));
@@ -1080,13 +1080,11 @@ public final class DropsDance {
             return i < 0 || i >= length ? FAULT_INDEX : 0;
         }
 
-        /** Nothing may be taken as of any lane: only its CELLS can not be read. */
-        int faultAs(int asLane) {
-            return lane == NOTHING || lane == asLane ? 0 : FAULT_CAST;
-        }
-
-        /** The FAULT in the three CELLS of DROP i, from CELL f on. */
-        int faultOfThree(int f, int i) {
+        /** The FAULT in the three CELLS of DROP i, from CELL f on. Nothing may be taken as of any lane: only its CELLS can not be read. */
+        int faultOfDrop(int asLane, int f, int i) {
+            if (lane != NOTHING && lane != asLane) {
+                return FAULT_CAST;
+            }
             int first = faultAt(f);
             return first != 0 ? first : faultAt(f + 3 * i + 2);
         }

@@ -728,14 +728,11 @@ final class PlainModel {
         World before = world.copy();
         int came = 0, found = 0;
         try {
-            byte[] bytes = lane == 0 ? (byte[]) sheets[k] : null;
-            short[] shorts = lane == 1 ? (short[]) sheets[k] : null;
-            int[] ints = lane == 2 ? (int[]) sheets[k] : null;
             for (int i = 0; i < n; i++) {
                 int[] three = new int[3];
                 for (int j = 0; j < 3; j++) {
                     int place = f + 3 * i + j;
-                    three[j] = lane == 0 ? bytes[place] : lane == 1 ? shorts[place] : ints[place];
+                    three[j] = lane == 0 ? ((byte[]) sheets[k])[place] : lane == 1 ? ((short[]) sheets[k])[place] : ((int[]) sheets[k])[place];
                 }
                 int answer = drop(three[0], three[1], three[2]);
                 if (answer < 0) {

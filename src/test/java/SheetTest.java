@@ -8,6 +8,7 @@ public final class SheetTest {
         lanes();
         readWhole();
         readTorn();
+        readOfNone();
         readRefused();
         count();
         CHECK.end("SheetTest");
@@ -117,7 +118,6 @@ public final class SheetTest {
         isRead(x, new int[] {0, 0, 0, 1}, 0, 3);
         isRead(x, new int[] {0, 2, 99, 1}, 0, 3);
         isRead(x, new int[] {0, 1, 0, 0}, 0, 0);
-        isRead(x, new int[] {0, 2, 0, 0}, 0, 3);
         isRead(x, new int[] {0, 1, -1, 1}, 0, 2);
         isRead(x, new int[] {0, 1, -3, 2}, 0, 2);
         isRead(x, new int[] {0, 1, 8, 1}, 0, 2);
@@ -136,6 +136,26 @@ public final class SheetTest {
         y.sheet(0, 1, 3);
         lay(y, 0, 40, 5, 1);
         isRead(y, new int[] {0, 1, 0, 1}, 1, 0);
+    }
+
+    /** With n 0 no CELL is read: the machine can refuse nothing, whatever the SHEET, the lane and f are. */
+    private static void readOfNone() {
+        int[] places = {Integer.MIN_VALUE, -1, 0, 3, 40, Integer.MAX_VALUE};
+        for (int made = -1; made < 3; made++) {
+            for (int cells = 0; cells <= 40; cells += 20) {
+                DropsDance x = new DropsDance();
+                if (made >= 0) {
+                    x.sheet(1, made, cells);
+                }
+                for (int lane = 0; lane < 3; lane++) {
+                    for (int f : places) {
+                        isRead(x, new int[] {2, 0, 0, 1}, 0, 1);
+                        isRead(x, new int[] {1, lane, f, 0}, 0, 0);
+                    }
+                }
+                CHECK.due("none came", x.count(0), 0);
+            }
+        }
     }
 
     private static void readRefused() {
