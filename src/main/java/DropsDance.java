@@ -382,7 +382,8 @@ public final class DropsDance {
             return BAD;
         }
         int many = 0, least = NONE, greatest = NONE;
-        for (int up = rules.value(DOWN); up <= MOST_HEAT; up++) {
+        // down may be 0, but up never is.
+        for (int up = Math.max(RULE_LEAST[UP], rules.value(DOWN)); up <= RULE_MOST[UP]; up++) {
             if (told.allSo(rules, up)) {
                 many++;
                 least = least == NONE ? up : least;

@@ -241,10 +241,26 @@ public final class LivesTest {
         CHECK.due("rules stay", x.rule(0), 60);
         DropsDance narrow = Check.told("up 99;down 99;");
         isFits(narrow, 1, 99, 99);
-        // down to 99, as it is told there.
+        fitsFromOne();
+    }
+
+    /** up is 1 at least, also where down is 0. */
+    private static void fitsFromOne() {
+        isFits(Check.told("down 1;"), 99, 1, 99);
+        isFits(Check.told("up 1;down 0;"), 99, 1, 99);
         DropsDance low = Check.told("down 0;");
-        isFits(low, 100, 0, 99);
+        isFits(low, 99, 1, 99);
         low.saw(10, 0, true, 10);
+        isFits(low, 99, 1, 99);
+        low.saw(10, 1, true, 28);
+        isFits(low, 1, 1, 1);
+        low.forget();
+        // Only an up of 0 would float it.
+        low.saw(10, 0, true, 28);
+        isFits(low, 0, -4, -4);
+        low.forget();
+        // From above down is what tells.
+        low.saw(10, 0, false, 28);
         isFits(low, 99, 1, 99);
     }
 }

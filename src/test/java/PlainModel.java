@@ -668,7 +668,7 @@ final class PlainModel {
             return BAD;
         }
         List<Integer> ups = new ArrayList<>();
-        for (int up = rules[1]; up <= 99; up++) {
+        for (int up = Math.max(1, rules[1]); up <= 99; up++) {
             int[] r = rules.clone();
             r[0] = up;
             if (lives.stream().allMatch(l -> lifeOf(r, l[0], l[1], l[2] == 1) == l[3])) {
