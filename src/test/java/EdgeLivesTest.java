@@ -153,6 +153,10 @@ public final class EdgeLivesTest {
         isHump("up 99;down 99;film 9;hiss 50;", 10, true, 99, 82, 5, 99);
         isHump("up 99;down 99;film 9;hiss 50;", 10, false, 99, 82, 5, 99);
         isHump("up 98;down 98;film 9;hiss 49;", 2, false, 98, 10, 1, 98);
+        // At HEAT 2 alone, at HEAT 1 alone, at HEAT 99 alone.
+        isHump("up 3;down 3;film 9;hiss 2;", 10, true, 3, 82, 5, 3);
+        isHump("up 2;down 2;film 9;", 10, true, 2, 82, 10, 2);
+        isHump("up 99;down 99;leap 9;hiss 50;", 10, true, 0, 10, 1, -4);
         // The shortest LIFE may be floating: leap.
         isHump("leap 9;up 10;down 5;hiss 50;", 10, true, 0, 10, 1, -4);
         isHump("leap 8;up 10;down 5;hiss 50;film 9;", 11, true, 10, 19, 11, 10);

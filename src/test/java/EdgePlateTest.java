@@ -682,6 +682,28 @@ public final class EdgePlateTest {
             return x.back(1);
         }, 1);
         back.due("keep(1)", x -> x.keep(1), 1);
+        back.due("back(1) over other DROPS, GONE otherwise", x -> {
+            x.back(0);
+            for (int i = 0; i < 12; i++) {
+                x.drop(60 + i, 1 + 5 * i, i % 4);
+            }
+            x.go(3);
+            x.heat(0);
+            x.put(95, 6);
+            x.go(200);
+            return x.back(1);
+        }, 1);
+        // A DROP that has the number of one that joined has joined to none.
+        DropsDance again = new DropsDance();
+        Stays.busy(again);
+        CHECK.due("1 joined 2", again.of(1, 5), 2);
+        again.back(0);
+        again.drop(60, 9, 1);
+        again.drop(70, 9, 1);
+        int[] fresh = {70, 9, 1, 0, -4, -4};
+        for (int what = 0; what < 6; what++) {
+            CHECK.due("of(1, " + what + ") of a new one", again.of(1, what), fresh[what]);
+        }
         // Not RULES, SHEETS, told LIVES, THE TAPE, FAULTS.
         DropsDance x = new DropsDance();
         Stays.busy(x);
