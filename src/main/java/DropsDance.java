@@ -20,9 +20,8 @@ public final class DropsDance {
     private static final int[] RULE_MOST = {99, 99, 60, 60, 9, 99, 50, 9, 60};
     private static final int[] RULE_FIRST = {60, 40, 1, 60, 0, 40, 10, 3, 0};
 
-    private final byte[] tape = new byte[TAPE_BYTES];
+    private final TextReader reader = new TextReader();
     private int tapeLength = 0;
-    private final TextReader reader = new TextReader(tape);
     private int textFault = 0;
     private final Rules rules = new Rules();
     private final Scene scene = new Scene();
@@ -50,7 +49,7 @@ public final class DropsDance {
             return FULL;
         }
         for (int i = 0; i < FEED_BYTES; i++) {
-            tape[tapeLength + i] = (byte) (v >>> (8 * (FEED_BYTES - 1 - i)));
+            reader.tape[tapeLength + i] = (byte) (v >>> (8 * (FEED_BYTES - 1 - i)));
         }
         tapeLength += FEED_BYTES;
         return tapeLength;
@@ -1101,23 +1100,19 @@ public final class DropsDance {
         }
     }
 
-    /** Reads THE TAPE into RULES and CELLS of its own, so that those told before stay if there is a FAULT. */
+    /** Has THE TAPE, and reads it into RULES and CELLS of its own, so that those told before stay if there is a FAULT. */
     private static final class TextReader {
         private static final int END = 0, NAME = 1, NUMBER = 2, SEMICOLON = 3;
         private static final int BLANK = 32;
         private static final String LETTERS = "neswpxoc";
 
+        final byte[] tape = new byte[TAPE_BYTES];
         final Rules rules = new Rules();
         final int[] cells = new int[CELLS];
         private final boolean[] ruleTold = new boolean[RULES];
-        private final byte[] bytes;
         private int length = 0, next = 0, rows = 0;
         private int kind = END, start = 0;
         int lines = 0, fault = 0, place = 0;
-
-        TextReader(byte[] tape) {
-            bytes = tape;
-        }
 
         void readAll(int tapeLength) {
             beginAnew(tapeLength);
@@ -1140,7 +1135,7 @@ public final class DropsDance {
         }
 
         private void beginAnew(int tapeLength) {
-            length = Math.min(tapeLength, bytes.length);
+            length = Math.min(tapeLength, TAPE_BYTES);
             next = 0;
             rows = 0;
             lines = 0;
@@ -1256,7 +1251,7 @@ public final class DropsDance {
         }
 
         private int byteAt(int i) {
-            return i >= 0 && i < length && i < bytes.length ? bytes[i] & 255 : 0;
+            return i >= 0 && i < length && i < tape.length ? tape[i] & 255 : 0;
         }
 
         private int ruleNamed() {

@@ -202,7 +202,7 @@ public final class ModelTest {
 
     private String drawText() {
         String[] names = {"up", "down", "teeth", "leap", "chimney", "hiss", "film", "roll"};
-        int[][] most = {{60, 99}, {0, 60}, {1, 30}, {0, 9}, {1, 99}, {1, 50}, {1, 9}, {0, 60}};
+        int[][] most = {{random.nextBoolean() ? 1 : 60, 99}, {0, random.nextBoolean() ? 3 : 60}, {1, 30}, {0, 9}, {1, 99}, {1, 50}, {1, 9}, {0, 60}};
         StringBuilder b = new StringBuilder();
         int rows = random.nextInt(5) == 0 ? random.nextInt(10) : random.nextInt(4), lines = random.nextInt(8), used = 0;
         for (int i = 0; i < rows + lines; i++) {
